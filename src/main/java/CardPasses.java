@@ -826,7 +826,9 @@ public final class CardPasses {
     }
 
     private static int doubled(int[] figures, int from, int column) {
-        return Math.max(figures[from + column], figures[from + (column + 1) % COLUMNS]);
+        int own = figures[from + column];
+        int beside = figures[from + (column + 1) % COLUMNS];
+        return own > beside ? own : beside;
     }
 
     private static int placeIn(int[] lie, int card, int size) {
@@ -1061,7 +1063,8 @@ public final class CardPasses {
             for (int k = 0; k < size; k++) {
                 int card = from[k];
                 boolean thrown = (misread >> card & 1) != 0;
-                int pocket = thrown ? THROWN_OUT : readsBehind(card, column, before);
+                int pocket = thrown ? THROWN_OUT
+                        : reading(kindOf[card], figures, card * COLUMNS, column, before);
                 int own = 2 * pocket + (kindOf[card] == MASTER ? 0 : 1);
                 int place = k;
                 while (place > 0 && rank[place - 1] > own) {

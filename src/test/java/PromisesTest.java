@@ -159,6 +159,8 @@ public final class PromisesTest {
         Check.told("mean of the greatest", x, x.mean(0), MAX);
         Check.fill(x, 0, MIN, MIN);
         Check.told("mean of the least", x, x.mean(0), MIN);
+        Check.fill(x, 0, 8);
+        Check.told("mean of one", x, x.mean(0), 8);
         x.row(0, 0);
         Check.finding("mean of none", x, x.mean(0), NOUGHT);
         Check.due("mean of row 6", x.mean(6), BAD);
@@ -319,6 +321,8 @@ public final class PromisesTest {
         x = Check.deckOf("c000t000m000m000c000");
         Check.due("masters lead", x.pass(1), 2);
         Check.lies("masters lead", x, 2, 3, 0, 4, 1);
+        x = Check.deckOf("m100c000");
+        Check.due("masters lead in their pocket alone", x.pass(0), 1);
         x = Check.deckOf("c100w200");
         for (int k = 0; k < 8; k++) {
             Check.due("worn, not yet", x.pass(0), 0);
@@ -330,13 +334,14 @@ public final class PromisesTest {
         CardPasses none = new CardPasses();
         Check.due("pass 3 without cards", none.pass(3), BAD);
         Check.due("pass without cards", none.pass(0), STATE);
-        full(x);
+        allButOne(x);
+        Check.due("the fortieth deed a pass", x.pass(0), 1);
         Check.due("pass full", x.pass(0), FULL);
         Check.due("pass 3 full", x.pass(3), BAD);
     }
 
-    private static void full(CardPasses x) {
-        while (x.count(2) < 40) {
+    private static void allButOne(CardPasses x) {
+        while (x.count(2) < 39) {
             x.turn();
         }
     }
@@ -350,7 +355,8 @@ public final class PromisesTest {
         Check.lies("turned three", y, 2, 1, 0);
         Check.due("a deed", x.count(2), 1);
         Check.due("no pass", x.count(1), 0);
-        full(x);
+        allButOne(x);
+        Check.due("the fortieth deed a turn", x.turn(), 0);
         Check.due("turn full", x.turn(), FULL);
         Check.due("turn without cards", new CardPasses().turn(), STATE);
     }
@@ -367,7 +373,8 @@ public final class PromisesTest {
         Check.due("lift 0 without cards", new CardPasses().lift(0), STATE);
         Check.due("lift 1 without cards", new CardPasses().lift(1), STATE);
         Check.due("lift 1 of 2", Check.deckOf("c111c222").lift(1), 1);
-        full(x);
+        allButOne(x);
+        Check.due("the fortieth deed a lift", x.lift(1), 5);
         Check.due("lift 6 full", x.lift(6), BAD);
         Check.due("lift full", x.lift(1), FULL);
     }
@@ -384,7 +391,8 @@ public final class PromisesTest {
         Check.due("punch card 6", x.punch(6, 0, 1), BAD);
         Check.due("punch without cards", new CardPasses().punch(0, 0, 1), BAD);
         Check.due("a deed", x.count(2), 1);
-        full(x);
+        allButOne(x);
+        Check.due("the fortieth deed a punch", x.punch(0, 0, 4), 5);
         Check.due("punch as it is, full", x.punch(0, 2, 3), STATE);
         Check.due("punch full", x.punch(0, 2, 4), FULL);
     }
@@ -443,7 +451,10 @@ public final class PromisesTest {
         Check.due("passes gone on", x.count(1), 1);
         Check.due("undo what was kept", x.undo(1), 1);
         Check.told("figure as read", x, x.card(4, 1), 0);
+        x.undo(0);
+        x.turn();
         Check.due("on once more", x.on(1), 2);
+        Check.lies("gone on once more", x, 0, 2, 4, 5, 1, 3);
         x.deck(0);
         Check.finding("kept decks go", x, x.on(1), NOTHING);
     }
@@ -579,6 +590,8 @@ public final class PromisesTest {
         Check.finding("card 6", x, x.columns(0), UNLIKE);
         Check.fill(x, 0, 0, 1, 2, 3, 4, -1);
         Check.finding("card -1", x, x.columns(0), UNLIKE);
+        Check.fill(x, 0, 9, 1, 2, 3, 4, 5);
+        Check.finding("card 9 on top", x, x.columns(0), UNLIKE);
         Check.fill(x, 0, 0, 1, 2, 3, 9);
         Check.finding("too few", x, x.columns(0), SIZE);
         Check.finding("nothing", x, x.columns(1), NOTHING);
@@ -690,6 +703,12 @@ public final class PromisesTest {
         same.row(0, 0);
         Check.due("all alike: the first", same.next(0, 0), 0);
         Check.due("all alike", same.asked(), 6);
+        CardPasses noughts = Check.deckOf("c000c000");
+        noughts.row(0, 0);
+        for (int k = 0; k < 3; k++) {
+            noughts.next(0, 0);
+            Check.due("all but the torn one", noughts.asked(), 5);
+        }
         clueRefusals(x, 28);
     }
 
@@ -745,6 +764,14 @@ public final class PromisesTest {
         Check.told("the first one need not", two, two.duel(1, 0, 1), 1);
         CardPasses same = Check.deckOf("c000c000");
         Check.told("nothing to be done", same, same.duel(0, 1, 3), 1);
+        // By the ninth pass card 1 falls below card 0: the first one must not make the eighth.
+        CardPasses worn = Check.deckOf("c111w222");
+        for (int k = 0; k < 7; k++) {
+            worn.pass(0);
+        }
+        Check.told("better not", worn, worn.duel(0, 1, 1), 1);
+        worn.pass(0);
+        Check.told("too late", worn, worn.duel(0, 1, 1), -1);
         Check.due("four turns", x.duel(0, 1, 4), BAD);
         Check.due("-1 turns", x.duel(0, 1, -1), BAD);
         Check.due("the same one", x.duel(2, 2, 1), BAD);
@@ -906,6 +933,8 @@ public final class PromisesTest {
         }
         x.punch(0, 1, 9);
         Check.due("figures punched", x.count(4), 79);
+        Check.due("worn on top", Check.deckOf("w111c222").count(5), 1);
+        Check.due("double on top", Check.deckOf("d111c222").count(6), 1);
         Check.due("count 10", x.count(10), BAD);
         Check.due("count -1", x.count(-1), BAD);
     }
