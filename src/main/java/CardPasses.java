@@ -252,7 +252,8 @@ public final class CardPasses {
     }
 
     public int undo(int n) {
-        if (n < 0 || n >= deck.done) {
+        // Just behind the latest deed lie no deeds, so none is undone there.
+        if (n < 0 || n > deck.done) {
             return BAD;
         }
         int undone = deck.done - n;

@@ -385,7 +385,7 @@ public final class Model {
 
     public int undo(int n) {
         return guarded(() -> {
-            bad(out(n, 0, deeds() - 1));
+            bad(out(n, 0, deeds()));
             int many = deeds() - n;
             past = new ArrayList<>(past.subList(0, n + 1));
             return many;

@@ -67,6 +67,9 @@ public final class ModelTest {
         if (choice == 0) {
             return WILD[random.nextInt(WILD.length)];
         }
+        if (name.equals("undo") && choice < 15) {
+            return own.count(2) - 2 + random.nextInt(4);
+        }
         if (name.equals("sets") || name.equals("sure")) {
             return choice < 15 ? random.nextInt(3) : random.nextInt(40);
         }

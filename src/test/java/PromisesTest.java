@@ -399,15 +399,21 @@ public final class PromisesTest {
 
     private static void promise18Undo() {
         CardPasses x = Check.deckOf(ALL);
-        Check.due("undo of none", x.undo(0), BAD);
+        Check.due("undo of none", x.undo(0), 0);
+        Check.due("undo behind none", x.undo(1), BAD);
         x.pass(0);
         x.turn();
         x.punch(0, 0, 9);
         x.pass(2);
         x.lift(3);
-        Check.due("undo behind the deeds", x.undo(5), BAD);
+        long before = x.digest();
+        Check.due("undo from just behind the deeds", x.undo(5), 0);
+        Check.due("undo farther behind", x.undo(6), BAD);
         Check.due("undo -1", x.undo(-1), BAD);
         Check.due("undo MAX", x.undo(MAX), BAD);
+        Check.due("undo MIN", x.undo(MIN), BAD);
+        Check.due("none undone", x.digest(), before);
+        Check.due("no finding", x.finding(), 0);
         Check.due("undo 2", x.undo(2), 3);
         Check.lies("undone", x, 4, 3, 2, 0, 1, 5);
         Check.told("figure undone", x, x.card(0, 1), 5);
@@ -415,7 +421,13 @@ public final class PromisesTest {
         Check.due("deeds undone", x.count(2), 2);
         Check.due("undo all", x.undo(0), 2);
         Check.lies("all undone", x, 0, 1, 2, 3, 4, 5);
-        Check.due("undo without cards", new CardPasses().undo(0), BAD);
+        Check.due("undo all once more", x.undo(0), 0);
+        allButOne(x);
+        x.turn();
+        Check.due("undo from behind forty", x.undo(40), 0);
+        Check.due("undo the fortieth", x.undo(39), 1);
+        Check.due("undo without cards", new CardPasses().undo(0), 0);
+        Check.due("undo 1 without cards", new CardPasses().undo(1), BAD);
     }
 
     private static void promise19Keep() {
