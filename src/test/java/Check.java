@@ -2,15 +2,21 @@
 final class Check {
     private static int wrong = 0;
     private static int asked = 0;
+    private static String test = "";
 
     private Check() {
+    }
+
+    /** The test whose name goes ahead of what is told from now on. */
+    static void begin(String name) {
+        test = name + ": ";
     }
 
     static void due(String call, long got, long want) {
         asked++;
         if (got != want) {
             wrong++;
-            System.out.println(call + " answered " + got + ", due is " + want);
+            System.out.println(test + call + " answered " + got + ", due is " + want);
         }
     }
 
