@@ -189,6 +189,22 @@ final class EdgeRowsTest {
         Check.told("the last of forty stays", x, x.at(2, 39), MAX);
     }
 
+    static void promise6CopyNoMoreThanTold() {
+        CardPasses x = laid();
+        x.copy(3, 0, 3, 2, 2);
+        Check.row("up, all else stays", x, 3, 1, 2, 1, 2, 5);
+        x = laid();
+        x.copy(3, 3, 3, 1, 1);
+        Check.row("down, all else stays", x, 3, 1, 4, 3, 4, 5);
+        x = laid();
+        x.copy(3, 0, 4, 1, 1);
+        Check.row("up to another one", x, 4, 7, 1, 9);
+        x.copy(3, 4, 4, 1, 1);
+        Check.row("down to another one", x, 4, 7, 5, 9);
+        x.copy(3, 1, 4, 1, 1);
+        Check.row("straight to another one", x, 4, 7, 2, 9);
+    }
+
     static void promise6CopyNone() {
         Edge.silent("none of the first", EdgeRowsTest::laid, 1, x -> x.copy(3, 0, 4, 0, 0));
         Edge.silent("none behind the last", EdgeRowsTest::laid, 1, x -> x.copy(3, 5, 4, 3, 0));
